@@ -155,7 +155,7 @@ public final class TwoWayGrammar {
         if (!good) {
             throw new IllegalStateException("no good description");
         }
-        parsing.run();
+        parsing.walk();
         if (parsing.overLimit) {
             throw new UnsupportedOperationException("too many nodes or uses");
         }
@@ -174,7 +174,8 @@ public final class TwoWayGrammar {
         if (!good) {
             throw new IllegalStateException("no good description");
         }
-        growing.run(x, fuel);
+        growing.fill(x, fuel);
+        growing.walk();
         if (growing.overLimit) {
             throw new UnsupportedOperationException("too many nodes or uses");
         }
@@ -217,7 +218,7 @@ public final class TwoWayGrammar {
         if (tree.nodes == 0) {
             throw new IllegalStateException("no tree");
         }
-        printing.run();
+        printing.walk();
         if (printing.tooLong) {
             throw new UnsupportedOperationException("too many characters");
         }
@@ -672,7 +673,10 @@ public final class TwoWayGrammar {
             faultPlace = 0;
             tokens.rewind();
             for (int n = 0; n <= RULES && fault == 0 && (n == 0 || tokens.sort != END_TOKEN); n++) {
-                readRule();
+                int form = beginRule();
+                expect('=');
+                readForm(form, 0);
+                expect(';');
             }
             if (fault == 0) {
                 nameUses();
@@ -696,24 +700,21 @@ public final class TwoWayGrammar {
             tokens.advance();
         }
 
-        private void readRule() {
+        /** The form of a rule that begins here; none if it can't. */
+        private int beginRule() {
             if (tokens.sort != USE_PART) {
                 blame(1, tokens.start);
-                return;
-            }
-            if (grammar.ruleNamed(tokens.code) != NONE) {
+            } else if (grammar.ruleNamed(tokens.code) != NONE) {
                 blame(2, tokens.start);
-                return;
-            }
-            if (grammar.rules >= RULES) {
+            } else if (grammar.rules >= RULES) {
                 blame(3, tokens.start);
-                return;
+            }
+            if (fault != 0) {
+                return NONE;
             }
             int form = grammar.addRule(tokens.code, tokens.start);
             tokens.advance();
-            expect('=');
-            readForm(form, 0);
-            expect(';');
+            return form;
         }
 
         private void readForm(int form, int open) {
@@ -782,7 +783,9 @@ public final class TwoWayGrammar {
             }
             tokens.advance();
             if (sort == NUMBER_PART && tokens.sort == '+') {
-                readPlus(part);
+                tokens.advance();
+                put(grammar.partValue, part, tokens.code);
+                expect(DIGIT_TOKEN);
             } else if (sort == GROUP_PART) {
                 int form = grammar.addGroup();
                 put(grammar.partValue, part, form);
@@ -790,12 +793,6 @@ public final class TwoWayGrammar {
                 expect(')');
             }
             return part;
-        }
-
-        private void readPlus(int part) {
-            tokens.advance();
-            put(grammar.partValue, part, tokens.code);
-            expect(DIGIT_TOKEN);
         }
 
         /** Rules may be used before they are described, so their numbers are known only at the end. */
@@ -826,6 +823,9 @@ public final class TwoWayGrammar {
         private final int[] alternativeBegins = new int[ALTERNATIVES];
         final int[] alternativeHeight = new int[ALTERNATIVES];
         final long[] directors = new long[ALTERNATIVES];
+        /** Of parts by themselves, whether they are repeated or not. */
+        final int[] partVoid = new int[PARTS];
+        final long[] partStarts = new long[PARTS];
         final long[] partFollows = new long[PARTS];
         /** How many nodes it has that stand in no other node of it. */
         final int[] partTops = new int[PARTS];
@@ -857,31 +857,27 @@ public final class TwoWayGrammar {
             return at(formHeight, rule) + 1;
         }
 
-        boolean mayBeVoid(int part) {
-            int sort = at(grammar.partSort, part);
-            int form = grammar.formIn(part);
-            return form != NONE ? at(formVoid, form) == 1 : sort >= EMPTY_PART && sort <= BACK_PART;
-        }
-
-        long starts(int part) {
+        private void refreshPart(int part) {
             int form = grammar.formIn(part);
             if (form != NONE) {
-                return at(formStarts, form);
+                put(partVoid, part, at(formVoid, form));
+                put(partStarts, part, at(formStarts, form));
+                return;
             }
-            switch (at(grammar.partSort, part)) {
-                case NUMBER_PART:
-                    return 1L << NUMBER_KIND;
-                case NAME_PART:
-                    return 1L << NAME_KIND;
-                case LITERAL_PART:
-                    return 1L << LITERAL_KIND + at(grammar.partValue, part);
-                default:
-                    return 0;
+            int sort = at(grammar.partSort, part);
+            put(partVoid, part, sort >= EMPTY_PART && sort <= BACK_PART ? 1 : 0);
+            put(partStarts, part, 0L);
+            if (sort == NUMBER_PART) {
+                put(partStarts, part, 1L << NUMBER_KIND);
+            } else if (sort == NAME_PART) {
+                put(partStarts, part, 1L << NAME_KIND);
+            } else if (sort == LITERAL_PART) {
+                put(partStarts, part, 1L << LITERAL_KIND + at(grammar.partValue, part));
             }
         }
 
-        private boolean unitMayBeVoid(int part) {
-            return at(grammar.partRepeat, part) != ONCE || mayBeVoid(part);
+        private boolean mayBePassed(int part) {
+            return at(grammar.partRepeat, part) != ONCE || at(partVoid, part) == 1;
         }
 
         private int begins(int part) {
@@ -893,7 +889,7 @@ public final class TwoWayGrammar {
             return self | at(formBegins, form);
         }
 
-        private int unitHeight(int part) {
+        private int height(int part) {
             int form = grammar.formIn(part);
             if (form == NONE || at(grammar.partRepeat, part) != ONCE) {
                 return 0;
@@ -941,12 +937,13 @@ public final class TwoWayGrammar {
             int height = 0;
             int part = at(grammar.alternativeFirst, alternative);
             for (int n = 0; part != NONE && n < PARTS; n++) {
+                refreshPart(part);
                 if (isVoid) {
-                    starts |= starts(part);
+                    starts |= at(partStarts, part);
                     begins |= begins(part);
                 }
-                isVoid = isVoid && unitMayBeVoid(part);
-                height = Math.max(height, unitHeight(part));
+                isVoid = isVoid && mayBePassed(part);
+                height = Math.max(height, height(part));
                 part = at(grammar.partNext, part);
             }
             put(alternativeVoid, alternative, isVoid ? 1 : 0);
@@ -975,7 +972,7 @@ public final class TwoWayGrammar {
                 int next = at(grammar.partNext, part);
                 long follows = startsFrom(next, behind);
                 put(partFollows, part, follows);
-                long within = at(grammar.partRepeat, part) == MANY ? follows | starts(part) : follows;
+                long within = at(grammar.partRepeat, part) == MANY ? follows | at(partStarts, part) : follows;
                 int form = grammar.formIn(part);
                 if (form != NONE && (within & ~at(formFollows, form)) != 0) {
                     put(formFollows, form, at(formFollows, form) | within);
@@ -991,8 +988,8 @@ public final class TwoWayGrammar {
             boolean isVoid = true;
             int part = first;
             for (int n = 0; isVoid && part != NONE && n < PARTS; n++) {
-                starts |= starts(part);
-                isVoid = unitMayBeVoid(part);
+                starts |= at(partStarts, part);
+                isVoid = mayBePassed(part);
                 part = at(grammar.partNext, part);
             }
             return isVoid ? starts | behind : starts;
@@ -1080,10 +1077,10 @@ public final class TwoWayGrammar {
             for (int part = 0; part < grammar.parts; part++) {
                 if (at(grammar.partRepeat, part) != ONCE) {
                     int place = at(grammar.partMark, part);
-                    if (sets.mayBeVoid(part)) {
+                    if (at(sets.partVoid, part) == 1) {
                         blame(7, place);
                     }
-                    if ((sets.starts(part) & at(sets.partFollows, part)) != 0) {
+                    if ((at(sets.partStarts, part) & at(sets.partFollows, part)) != 0) {
                         blame(9, place);
                     }
                 }
@@ -1212,6 +1209,11 @@ public final class TwoWayGrammar {
             this.tree = tree;
         }
 
+        abstract void begin();
+
+        void end() {
+        }
+
         /** Which alternative of a choice is taken. */
         abstract int chosen(int form);
 
@@ -1254,14 +1256,17 @@ public final class TwoWayGrammar {
             tree.exchange(start, middle);
         }
 
-        final void prepare() {
+        final void walk() {
             stopped = false;
             overLimit = false;
             uses = 0;
-        }
-
-        final void walkStart() {
-            walkUse(0, 0);
+            begin();
+            if (!stopped) {
+                walkUse(0, 0);
+            }
+            if (!stopped) {
+                end();
+            }
         }
 
         final void passLimit() {
@@ -1353,16 +1358,15 @@ public final class TwoWayGrammar {
             this.text = text;
         }
 
-        void run() {
+        void begin() {
             tree.drop();
             faultPlace = NONE;
             place = 0;
-            prepare();
             takeToken();
-            if (!stopped) {
-                walkStart();
-            }
-            if (!stopped && kind != END_KIND) {
+        }
+
+        void end() {
+            if (kind != END_KIND) {
                 blame();
             }
         }
@@ -1382,10 +1386,10 @@ public final class TwoWayGrammar {
             } else if (isDigit(c)) {
                 takeNumber();
             } else if (isSmall(c)) {
-                takeLetters();
+                takeWord();
             } else {
                 place = start + 1;
-                kind = literalKind(signCode(c));
+                kind = literalOr(NONE, signCode(c));
             }
             if (kind == NONE) {
                 blame();
@@ -1401,19 +1405,18 @@ public final class TwoWayGrammar {
             }
         }
 
-        private void takeLetters() {
+        private void takeWord() {
             place = text.behindLetters(start);
             kind = NONE;
             if (place - start <= NAME_LETTERS) {
                 worth = text.letterCode(start, place);
-                kind = literalKind(worth);
-                kind = kind == NONE ? NAME_KIND : kind;
+                kind = literalOr(NAME_KIND, worth);
             }
         }
 
-        private int literalKind(int code) {
+        private int literalOr(int otherKind, int code) {
             int n = grammar.literal(code);
-            return n == NONE ? NONE : LITERAL_KIND + n;
+            return n == NONE ? otherKind : LITERAL_KIND + n;
         }
 
         private boolean isNextIn(long kinds) {
@@ -1433,7 +1436,7 @@ public final class TwoWayGrammar {
         }
 
         boolean goesOn(int part, int node, int times) {
-            boolean goes = isNextIn(sets.starts(part));
+            boolean goes = isNextIn(at(sets.partStarts, part));
             if (goes) {
                 put(tree.values, node, times + 1);
             }
@@ -1441,7 +1444,7 @@ public final class TwoWayGrammar {
         }
 
         void leaf(int part) {
-            long wanted = sets.starts(part);
+            long wanted = at(sets.partStarts, part);
             if (wanted == 0) {
                 return;
             }
@@ -1469,12 +1472,13 @@ public final class TwoWayGrammar {
             super(grammar, sets, tree);
         }
 
-        void run(long seed, int fuelAhead) {
-            tree.drop();
+        void fill(long seed, int fuelAhead) {
             x = seed;
             fuel = fuelAhead;
-            prepare();
-            walkStart();
+        }
+
+        void begin() {
+            tree.drop();
         }
 
         private int draw(int below) {
@@ -1545,7 +1549,7 @@ public final class TwoWayGrammar {
             this.text = text;
         }
 
-        void run() {
+        void begin() {
             text.drop();
             cursor = 0;
             level = 0;
@@ -1553,8 +1557,6 @@ public final class TwoWayGrammar {
             blankCame = false;
             wordBefore = false;
             tooLong = false;
-            prepare();
-            walkStart();
         }
 
         int enter(int kind, int value) {
@@ -1593,10 +1595,10 @@ public final class TwoWayGrammar {
                     writeNumber((nextValue() - value + NUMBERS) % NUMBERS);
                     break;
                 case NAME_PART:
-                    writeLetters(nextValue());
+                    writeCode(nextValue());
                     break;
                 case LITERAL_PART:
-                    writeLiteral(at(grammar.literalCode, value));
+                    writeCode(at(grammar.literalCode, value));
                     break;
                 case BLANK_PART:
                     blankCame = true;
@@ -1644,21 +1646,16 @@ public final class TwoWayGrammar {
             }
         }
 
-        private void writeLetters(int code) {
-            separate(true);
-            int rest = code;
+        /** Writes a sign, or the letters of a keyword or a name. */
+        private void writeCode(int code) {
+            separate(code > 0);
+            if (code < 0) {
+                write((char) -code);
+            }
+            int rest = Math.max(code, 0);
             for (int n = 0; n < NAME_LETTERS && rest != 0; n++) {
                 write((char) ('a' - 1 + (rest & 31)));
                 rest >>>= 5;
-            }
-        }
-
-        private void writeLiteral(int code) {
-            if (code > 0) {
-                writeLetters(code);
-            } else {
-                separate(false);
-                write((char) -code);
             }
         }
 

@@ -37,6 +37,8 @@ public final class CompileTest {
         fault("A=foo;", 1, 2);
         fault("A=numbername;", 1, 2);
         fault("A=num ber;", 1, 2);
+        fault("A=dame;", 1, 2);
+        fault("A=names;", 1, 2);
         good("A=number name;");
         good("\n A\n=\n name \n;\n");
         good("A=empty blank line deeper back;");
@@ -50,6 +52,7 @@ public final class CompileTest {
         fault("A=\"a b\";", 1, 2);
         fault("A=\"aB\";", 1, 2);
         fault("A=\"a1\";", 1, 2);
+        fault("A=\"+ab\";", 1, 2);
         fault("A=\"", 1, 2);
         fault("A='a;", 1, 2);
         fault("A='Z;", 1, 2);
@@ -165,6 +168,7 @@ public final class CompileTest {
         fault("A=A'+|number;", 5, 0);
         fault(" A=name? A;", 5, 1);
         fault("A=B;B=A|name;", 5, 0);
+        fault("A=B;B=B|'+;", 5, 4);
         fault("A='+ C;C=empty C|'-;", 5, 7);
         fault("A=(A)*'+;", 5, 0);
         fault("A='+ B;B=line (name? (C)) '-;C=deeper B|'.;", 5, 7);
@@ -238,6 +242,9 @@ public final class CompileTest {
         Desk.due("the input stays", desk.g.count(1), 1);
         Desk.due("the new one is in use", desk.parse("b"), -1);
         Desk.due("it parses", desk.parse("7"), 2);
+        desk.compile("A='+'-;");
+        desk.compile("A='+ number;");
+        Desk.due("a literal of one before has no kind", desk.parse("+ - 7"), -3);
         desk.g.keep();
         Desk.due("a description with a fault", desk.compile("A="), 1 + 16 * 2);
         Desk.due("no tree", desk.g.count(5), 0);
@@ -290,6 +297,9 @@ public final class CompileTest {
         Desk high = Desk.of("A=B;B=C;C=D;D=E;E=F;F=G;G=H;H=I;I=J;J=name;");
         rule(high, 0, kinds(2) + " " + kinds(0) + " 0 10");
         rule(high, 9, kinds(2) + " " + kinds(0) + " 0 1");
+        Desk back = Desk.of("A='+;B='-|A;C='.|B;D=empty|C name;E='* D;");
+        rule(back, 3, kinds(3, 4, 5) + " 0 1 1");
+        rule(back, 2, kinds(3, 4, 5) + " " + kinds(2) + " 0 1");
         Desk last = new Desk();
         StringBuilder twenty = new StringBuilder("A=");
         for (int k = 0; k < 20; k++) {

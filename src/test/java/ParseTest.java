@@ -101,6 +101,15 @@ public final class ParseTest {
         Desk.due("its nodes", desk.nodes(), "1:0 4:0 1:1 6:0");
         Desk.due("another way", desk.parse("x."), 3);
         Desk.due("no way", desk.parse(""), -1);
+        Desk end = Desk.of("A=name|empty;");
+        Desk.due("a void way at the end", end.parse(" "), 2);
+        Desk.due("which", end.g.node(1, 1), 1);
+        Desk maybe = Desk.of("A=name?;");
+        Desk.due("maybe", maybe.parse("a"), 3);
+        Desk.due("a maybe is read once", maybe.parse("a b"), -3);
+        Desk ten = Desk.of("A=(B);B=(C);C=(D);D=(E);E=(F);F=(G);G=(H);H=(I);I=(J);J=('+|'-);");
+        Desk.due("ten rules with groups", ten.parse("-"), 11);
+        Desk.due("their nodes", ten.nodes(), "1:0 1:1 1:2 1:3 1:4 1:5 1:6 1:7 1:8 1:9 4:1");
         Desk dots = Desk.of("A='.*;");
         Desk.due("as many as an input has", dots.parse(".".repeat(160)), 2);
         Desk.due("how often", dots.g.node(1, 1), 160);

@@ -41,6 +41,7 @@ public final class PrintTest {
         Desk again = Desk.of("A=deeper name(line name)*;");
         Desk.due("first", printed(again, "a b"), "a\n  b");
         Desk.due("the level begins anew", printed(again, "a b"), "a\n  b");
+        Desk.due("empty is nothing", printed(Desk.of("A='!empty'#;"), "! #"), "!#");
         Desk late = Desk.of("A=name line;");
         Desk.due("nothing behind the last", printed(late, "a"), "a");
         Desk.due("a line that came is not kept", printed(late, "b"), "b");
@@ -58,6 +59,10 @@ public final class PrintTest {
         Desk.due("and another way", printed(nested, "a 1 ! 2 $ c"), "a 1!2$c");
         Desk many = Desk.of("A=((number~B)'. )*name;B=('# B)?~(name|'-);");
         Desk.due("pairs in a many", printed(many, "1 # # a - b . 2 - . c"), "1##a-b.2-.c");
+        Desk.due("a pair alone", printed(Desk.of("A=name~number;"), "a 1"), "a 1");
+        Desk choice = Desk.of("A=name~('$|number number)number;");
+        Desk.due("a choice in a pair", printed(choice, "a $ 1"), "a$1");
+        Desk.due("another choice in a pair", printed(choice, "a 3 2 1"), "a 3 2 1");
         Desk.due("use first", printed(Desk.of("A=B~C;B=name;C=number;"), "a 1"), "a 1");
     }
 
