@@ -242,9 +242,11 @@ public final class CompileTest {
         Desk.due("the input stays", desk.g.count(1), 1);
         Desk.due("the new one is in use", desk.parse("b"), -1);
         Desk.due("it parses", desk.parse("7"), 2);
-        desk.compile("A='+'-;");
-        desk.compile("A='+ number;");
-        Desk.due("a literal of one before has no kind", desk.parse("+ - 7"), -3);
+        desk.compile("A=\"do\"'-;");
+        desk.compile("A=name;");
+        Desk.due("a keyword of one before is a name", desk.parse("do"), 2);
+        desk.parse("a");
+        Desk.due("and can be set", desk.g.set(1, Desk.letters("do")), true);
         desk.g.keep();
         Desk.due("a description with a fault", desk.compile("A="), 1 + 16 * 2);
         Desk.due("no tree", desk.g.count(5), 0);

@@ -59,11 +59,11 @@ public final class PrintTest {
         Desk.due("and another way", printed(nested, "a 1 ! 2 $ c"), "a 1!2$c");
         Desk many = Desk.of("A=((number~B)'. )*name;B=('# B)?~(name|'-);");
         Desk.due("pairs in a many", printed(many, "1 # # a - b . 2 - . c"), "1##a-b.2-.c");
-        Desk.due("a pair alone", printed(Desk.of("A=name~number;"), "a 1"), "a 1");
+        Desk.due("a pair alone", printed(Desk.of("A=name~number;"), "b 7"), "b 7");
         Desk choice = Desk.of("A=name~('$|number number)number;");
         Desk.due("a choice in a pair", printed(choice, "a $ 1"), "a$1");
         Desk.due("another choice in a pair", printed(choice, "a 3 2 1"), "a 3 2 1");
-        Desk.due("use first", printed(Desk.of("A=B~C;B=name;C=number;"), "a 1"), "a 1");
+        Desk.due("use first", printed(Desk.of("A=B~C;B=name;C=number;"), "c 9"), "c 9");
     }
 
     private static void numbers() {
