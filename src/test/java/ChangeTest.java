@@ -79,9 +79,9 @@ public final class ChangeTest {
     }
 
     private static void comparing() {
-        Desk desk = Desk.of("A=number(name|'+)'.*'!?;");
         String[] rising = {"1a", "1b", "1z", "1aa", "1+", "1+!", "1+.", "1+..", "2a", "10a", "9999+"};
         for (int kept = 0; kept < rising.length; kept++) {
+            Desk desk = Desk.of("A=number(name|'+)'.*'!?;");
             desk.parse(rising[kept]);
             desk.g.keep();
             for (int k = 0; k < rising.length; k++) {

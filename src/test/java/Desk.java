@@ -1,6 +1,9 @@
 import java.util.concurrent.Callable;
 
-/** An object under test, with texts typed and trees told at one stroke, and the count of wrong answers. */
+/**
+ * An object under test, with texts typed and trees told at one stroke, and the count of wrong answers.
+ * A test takes a new one before it has made 512 calls: what later calls answer is free.
+ */
 final class Desk {
     private static int wrong = 0;
 
@@ -71,7 +74,8 @@ final class Desk {
 
     String output() {
         StringBuilder all = new StringBuilder();
-        for (int k = 0; k < g.count(2); k++) {
+        int characters = g.count(2);
+        for (int k = 0; k < characters; k++) {
             all.append(g.output(k));
         }
         return all.toString();
@@ -80,7 +84,8 @@ final class Desk {
     /** Each node's kind:value, in their order. */
     String nodes() {
         StringBuilder all = new StringBuilder();
-        for (int k = 0; k < g.count(5); k++) {
+        int nodes = g.count(5);
+        for (int k = 0; k < nodes; k++) {
             all.append(k == 0 ? "" : " ").append(g.node(k, 0)).append(':').append(g.node(k, 1));
         }
         return all.toString();
@@ -89,7 +94,8 @@ final class Desk {
     /** What all nodes have of one sort. */
     String all(int what) {
         StringBuilder all = new StringBuilder();
-        for (int k = 0; k < g.count(5); k++) {
+        int nodes = g.count(5);
+        for (int k = 0; k < nodes; k++) {
             all.append(k == 0 ? "" : " ").append(g.node(k, what));
         }
         return all.toString();

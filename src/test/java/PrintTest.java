@@ -84,20 +84,22 @@ public final class PrintTest {
     }
 
     private static void rooms() {
-        Desk desk = Desk.of("A='!?('.line)*;");
-        Desk.due("159", printed(desk, ".".repeat(80)).length(), 159);
-        Desk.due("160", printed(desk, "!" + ".".repeat(80)).length(), 160);
-        String before = desk.output();
-        Desk.due("161", printed(desk, ".".repeat(81)), LIMIT);
-        Desk.due("the output before stays", desk.output(), before);
-        Desk.due("162", printed(desk, "!" + ".".repeat(81)), LIMIT);
-        Desk.due("less again", printed(desk, "..").length(), 3);
-        Desk word = Desk.of("A=('.line)*name;");
-        Desk.due("a name ends it", printed(word, ".".repeat(78) + "abcd").length(), 160);
-        Desk.due("a name too long", printed(word, ".".repeat(78) + "abcde"), LIMIT);
-        Desk deep = Desk.of("A=('.deeper)*line'!;");
-        Desk.due("a level too deep", printed(deep, ".".repeat(53) + "!"), LIMIT);
-        Desk.due("a level that fits", printed(deep, ".".repeat(52) + "!").length(), 52 + 1 + 104 + 1);
+        String dots = "A='!?('.line)*;";
+        Desk.due("159", printed(Desk.of(dots), ".".repeat(80)).length(), 159);
+        Desk.due("160", printed(Desk.of(dots), "!" + ".".repeat(80)).length(), 160);
+        Desk.due("161", printed(Desk.of(dots), ".".repeat(81)), LIMIT);
+        Desk.due("162", printed(Desk.of(dots), "!" + ".".repeat(81)), LIMIT);
+        Desk desk = Desk.of(dots);
+        Desk.due("few", printed(desk, "!.."), "!.\n.");
+        Desk.due("too many", printed(desk, ".".repeat(81)), LIMIT);
+        Desk.due("the output before stays", desk.output(), "!.\n.");
+        Desk.due("few again", printed(desk, ".."), ".\n.");
+        String word = "A=('.line)*name;";
+        Desk.due("a name ends it", printed(Desk.of(word), ".".repeat(78) + "abcd").length(), 160);
+        Desk.due("a name too long", printed(Desk.of(word), ".".repeat(78) + "abcde"), LIMIT);
+        String deep = "A=('.deeper)*line'!;";
+        Desk.due("a level too deep", printed(Desk.of(deep), ".".repeat(53) + "!"), LIMIT);
+        Desk.due("a level that fits", printed(Desk.of(deep), ".".repeat(52) + "!").length(), 52 + 1 + 104 + 1);
     }
 
     private static void outputs() {
@@ -145,9 +147,9 @@ public final class PrintTest {
             "A=(B~C)*;B='- number+5;C=(name~D)?;D='/ A '/;",
         };
         for (int d = 0; d < 6; d++) {
-            Desk desk = d < 3 ? Desk.ofSample(d) : Desk.of(descriptions[d - 3]);
             int read = 0;
             for (long x = 0; x < 300; x++) {
+                Desk desk = d < 3 ? Desk.ofSample(d) : Desk.of(descriptions[d - 3]);
                 long seed = x * 7919;
                 String grown = Desk.ask(() -> desk.g.grow(seed, (int) (seed % 21)));
                 if (!grown.startsWith("throws") && !desk.print().startsWith("throws")) {
