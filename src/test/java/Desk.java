@@ -5,14 +5,26 @@ import java.util.concurrent.Callable;
  * A test takes a new one before it has made 512 calls: what later calls answer is free.
  */
 final class Desk {
+    static final String STATE = "throws.IllegalStateException";
+    static final String OUT = "throws.IndexOutOfBoundsException";
+    static final String ARGUMENT = "throws.IllegalArgumentException";
+    static final String ELEMENT = "throws.NoSuchElementException";
+    static final String LIMIT = "throws.UnsupportedOperationException";
+
     private static int wrong = 0;
+    private static String sentence = "";
 
     final TwoWayGrammar g = new TwoWayGrammar();
+
+    /** The words of the document that the answers from here on are due by. */
+    static void sentence(String words) {
+        sentence = words.isEmpty() ? "" : words + ": ";
+    }
 
     static void due(String what, Object got, Object want) {
         if (!String.valueOf(got).equals(String.valueOf(want))) {
             wrong++;
-            System.out.println(what + " answered " + got + ", due is " + want);
+            System.out.println(sentence + what + " answered " + got + ", due is " + want);
         }
     }
 
@@ -44,6 +56,16 @@ final class Desk {
         return g.compile();
     }
 
+    /** What compile() finds in a description: good, or the fault's number @ its place. */
+    static String found(String description) {
+        int answer = new Desk().compile(description);
+        return answer == 0 ? "good" : answer % 16 + "@" + answer / 16;
+    }
+
+    static void dueFound(String description, String want) {
+        due("compile of " + description, found(description), want);
+    }
+
     static Desk of(String description) {
         Desk desk = new Desk();
         due("compile of " + description, desk.compile(description), 0);
@@ -60,6 +82,37 @@ final class Desk {
     String parse(String input) {
         write(1, input);
         return ask(g::parse);
+    }
+
+    /** Parses an input by a description: the nodes, or what parse() answers or throws instead. */
+    static String read(String description, String input) {
+        Desk desk = of(description);
+        String answer = desk.parse(input);
+        return answer.startsWith("-") || answer.startsWith("throws") ? answer : desk.nodes();
+    }
+
+    static void dueRead(String description, String input, String want) {
+        due(input + " by " + description, read(description, input), want);
+    }
+
+    /** Parses an input by a description and prints the tree: the output, or what is answered or thrown instead. */
+    static String written(String description, String input) {
+        Desk desk = of(description);
+        String answer = desk.parse(input);
+        return answer.startsWith("-") || answer.startsWith("throws") ? answer : desk.print();
+    }
+
+    static void dueWritten(String description, String input, String want) {
+        due(input + " printed by " + description, written(description, input), want);
+    }
+
+    /** A set of kinds. */
+    static long kinds(int... all) {
+        long bits = 0;
+        for (int kind : all) {
+            bits |= 1L << kind;
+        }
+        return bits;
     }
 
     /** Prints the tree: the output, or the name of what was thrown. */

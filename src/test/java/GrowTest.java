@@ -12,29 +12,6 @@ public final class GrowTest {
         Desk.end();
     }
 
-    /** The document's draws, made here once more. */
-    private static final class Draws {
-        private long x;
-
-        Draws(long x) {
-            this.x = x;
-        }
-
-        int below(int n) {
-            x = x * 6364136223846793005L + 1442695040888963407L;
-            return (int) ((x >>> 33) % n);
-        }
-
-        String name() {
-            int letters = 1 + below(3);
-            StringBuilder all = new StringBuilder();
-            for (int k = 0; k < letters; k++) {
-                all.append("abc".charAt(below(3)));
-            }
-            return all.toString();
-        }
-    }
-
     private static final long[] SEEDS = {0, 1, 2, 3, 99, 12345, -1, -77, Long.MIN_VALUE, Long.MAX_VALUE, 1L << 40};
 
     private static void draws() {
