@@ -24,6 +24,8 @@ public final class ChecksEdgesTest {
         Desk.dueFound("A=B;B=C;C=D;D=E;E=F;F=G;G=H;H=I;I=J;J=A|'+;", "5@0");
         Desk.dueFound("A='+ B;B=C;C=B|'-;", "5@7");
         Desk.dueFound("A=B '+;B=C;C=C '-|'.;", "5@11");
+        Desk.dueFound("A=J|'+;B=A|'+;C=B|'+;D=C|'+;E=D|'+;F=E|'+;G=F|'+;H=G|'+;I=H|'+;J=I|'+;", "5@0");
+        Desk.dueFound("A=B|'+;B=C|'+;C=D|'+;D=E|'+;E=F|'+;F=G|'+;G=H|'+;H=I|'+;I=J|'+;J=A|'+;", "5@0");
         Desk.dueFound("A=empty A|'+;", "5@0");
         Desk.dueFound("A=line deeper A|'+;", "5@0");
         Desk.dueFound("A=name? number* A;", "5@0");
@@ -218,19 +220,54 @@ public final class ChecksEdgesTest {
         Desk.due("good", new Desk().compile("A=name;"), 0);
     }
 
+    /** All that can be seen of a description in use: its counts and rules, and trees made by it. */
+    private static String seen(Desk desk, String description) {
+        StringBuilder all = new StringBuilder().append(desk.compile(description));
+        for (int what = 3; what <= 6; what++) {
+            all.append(' ').append(desk.g.count(what));
+        }
+        for (int r = 0; r < 3; r++) {
+            for (int what = 0; what < 4; what++) {
+                int rule = r;
+                int asked = what;
+                all.append(' ').append(Desk.ask(() -> desk.g.rule(rule, asked)));
+            }
+        }
+        for (String input : new String[] {"", "do", "a 1", "+ 1"}) {
+            all.append(' ').append(desk.parse(input));
+        }
+        for (long x : new long[] {1, 1L << 40}) {
+            all.append(' ').append(Desk.ask(() -> desk.g.grow(x, 6)));
+            all.append(' ').append(desk.g.count(5) == 0 ? "" : desk.g.node(desk.g.count(5) - 1, 1));
+            all.append(' ').append(Desk.ask(desk.g::print));
+        }
+        return all.toString();
+    }
+
     @Says("Promise 5: Reads and checks the description")
     static void nothingOfOneBefore() {
+        String[] descriptions = {
+            "A=name number;", "A=name~number;", "A=empty;", "A=A;", "A=B;B=A|'+;", "A=B;B=B|'+;", "A='+ A|number+9 number;",
+            "A=\"do\"|name~(number+3);B=A*;C=empty;", "A=('+|'-)(number|name)?;", "A='- A;B=name|name;", "A=(name number)*;",
+            "A=", "A=B;", "A=B C;B=line;C=deeper number?;", "A=((((name?))))((((number*))));", "A=name?~number?'+?;",
+        };
+        for (String before : descriptions) {
+            for (String description : descriptions) {
+                Desk used = new Desk();
+                seen(used, before);
+                Desk.due(description + " behind " + before, seen(used, description), seen(new Desk(), description));
+            }
+        }
+    }
+
+    @Says("Promise 5: till the next compile()")
+    static void manyTimes() {
         Desk desk = new Desk();
-        desk.compile("A=\"do\"(B|C|D|'+)*;B=\"x\";C=\"y\";D=\"z\";E=name|name;");
-        Desk.due("a literal of one before is none", desk.compile("A=name;"), 0);
-        Desk.due("its keyword is a name", desk.parse("do"), 2);
-        Desk.due("a rule of one before is none", desk.compile("A=B;"), 4 + 16 * 2);
-        Desk.due("a fault of one before is none", desk.compile("A='+;"), 0);
-        Desk.due("starts", desk.g.rule(0, 0), 8);
-        Desk.due("follows", desk.g.rule(0, 1), 1);
-        Desk.due("void", desk.g.rule(0, 2), 0);
-        Desk.due("height", desk.g.rule(0, 3), 1);
-        desk.compile("A=" + "'+".repeat(60) + "'+;");
-        Desk.due("behind one with too much", desk.compile("A=" + "'+".repeat(60) + ";"), 0);
+        desk.write(0, "A=" + "('+|'-)".repeat(20) + ";");
+        for (int n = 0; n < 300; n++) {
+            Desk.due("compile for the time " + n, desk.g.compile(), 0);
+        }
+        Desk.due("parse by the last", desk.parse("+-".repeat(10)), 21);
+        Desk.due("its last node", desk.g.node(20, 1), 1);
     }
 }

@@ -361,6 +361,40 @@ public final class DescriptionEdgesTest {
         Desk.dueFound("A=" + "'+~'-".repeat(30) + ";", "good");
     }
 
+    @Says("the 61st of the description")
+    static void sixtyInOne() {
+        Desk desk = Desk.of("A=" + "'+".repeat(59) + "name;");
+        Desk.due("60 parts in one alternative", desk.parse("+".repeat(59) + "b"), 2);
+        Desk.due("the last one's node", desk.nodes(), "1:0 3:2");
+        Desk.due("all are printed", desk.print(), "+".repeat(59) + "b");
+        Desk.due("all are grown", Desk.ask(() -> desk.g.grow(1, 1)), 2);
+        Desk.due("one is missing", desk.parse("+".repeat(59)), -60);
+        Desk first = new Desk();
+        first.compile("A=" + "'+?".repeat(59) + "name;");
+        Desk.due("the last one's starts", first.g.rule(0, 0), Desk.kinds(2, 3));
+        Desk.due("it is not void", first.g.rule(0, 2), 0);
+        Desk.dueFound("A='!A?'#" + "'$".repeat(56) + "'#?;", "9@122");
+        Desk.dueFound("A='!A?'#" + "'$".repeat(56) + "'%?;", "good");
+    }
+
+    @Says("a seventh alternative")
+    static void sixtyAlternatives() {
+        StringBuilder all = new StringBuilder();
+        for (int r = 0; r < 10; r++) {
+            all.append((char) ('A' + r)).append('=').append(ways(6)).append(';');
+        }
+        Desk desk = Desk.of(all.toString());
+        Desk.due("starts of the last rule", desk.g.rule(9, 0), Desk.kinds(3, 4, 5, 6, 7, 8));
+        Desk.due("rules", desk.g.count(3), 10);
+        String last = all.substring(0, all.length() - 3) + "'!;";
+        Desk.dueFound(last, "8@" + (last.length() - 4));
+        String used = "A='@ J;" + all.substring(20);
+        Desk tenth = Desk.of(used);
+        Desk.due("by the first way of the last rule", tenth.parse("@!"), 3);
+        Desk.due("by the last way of the last rule", tenth.parse("@&"), 3);
+        Desk.due("its nodes", tenth.nodes(), "1:0 1:9 4:5");
+    }
+
     @Says("a fifth ( that is open")
     static void fifthOpen() {
         Desk.dueFound("A=((((name))));", "good");

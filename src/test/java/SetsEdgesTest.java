@@ -108,6 +108,20 @@ public final class SetsEdgesTest {
         due("A=B|'+;B=A|empty;", 0, VOID, 1);
     }
 
+    /** H begins with all, so that all but what is asked for is known early, and this comes by the longest way alone. */
+    private static final String HUB = "H=A'!|B'!|C'!|D'!|E'!|F'!;";
+
+    @Says("(of all, the least that may be so)")
+    static void voidByLongWays() {
+        String chain = "A=empty|H'!;B=A|H'!;C=B|H'!;D=C|H'!;E=D|H'!;F=E|H'!;" + HUB;
+        due(chain + "G=F|H'!;", 7, VOID, 1);
+        due(chain.replace("empty", "'!") + "G=F|H'!;", 7, VOID, 0);
+        due(chain + "X=F'+|H'!;Y=X'+|H'!;Z=Y'+|H'!;", 9, STARTS, Desk.kinds(3, 4));
+        String turned = "G=F|H'!;F=E|H'!;E=D|H'!;D=C|H'!;C=B|H'!;B=A|H'!;A=empty|H'!;" + HUB;
+        due(turned, 0, VOID, 1);
+        due(turned.replace("empty", "'!"), 0, VOID, 0);
+    }
+
     @Says("number, name, a literal with its own")
     static void startsOfParts() {
         dueStarts("number", 1);
@@ -221,6 +235,14 @@ public final class SetsEdgesTest {
         due("A='.;B='+ C;C='- B;", 1, FOLLOWS, 0);
     }
 
+    @Says("(All are the least sets for which this holds.)")
+    static void followsByLongWays() {
+        due("A='!;J=I'+;I='.H;H='.G;G='.F;F='.E;E='.D;D='.C;C='.B;B='.;", 9, FOLLOWS, Desk.kinds(4));
+        due("A='!;B='.;C='.B;D='.C;E='.D;F='.E;G='.F;H='.G;I='.H;J=I'+;", 1, FOLLOWS, Desk.kinds(5));
+        due("A='!;B='.C;C='.B;", 1, FOLLOWS, 0);
+        due("A='!;B='.C;C='.B|'.B'+;", 1, FOLLOWS, Desk.kinds(5));
+    }
+
     @Says("of a rule 1 more than that of its form")
     static void heightOfRules() {
         dueHeight("'!", 1);
@@ -229,6 +251,13 @@ public final class SetsEdgesTest {
         due("A=B;B=C;C=D;D=E;E=F;F=G;G=H;H=I;I=J;J=empty;", 0, HEIGHT, 10);
         due("A=B;B=C;C=D;D=E;E=F;F=G;G=H;H=I;I=J;J=empty;", 9, HEIGHT, 1);
         due("J='+;I=J;H=I;G=H;F=G;E=F;D=E;C=D;B=C;A=B;", 9, HEIGHT, 10);
+    }
+
+    @Says("of a rule 1 more than that of its form")
+    static void heightByLongWays() {
+        due("J='!;I='!J;H='!I;G='!H;F='!G;E='!F;D='!E;C='!D;B='!C;A='!B;", 9, HEIGHT, 10);
+        due("A='!B;B='!C;C='!D;D='!E;E='!F;F='!G;G='!H;H='!I;I='!J;J='!;", 0, HEIGHT, 10);
+        due("J='!J;I='!J;H='!I;G='!H;F='!G;E='!F;D='!E;C='!D;B='!C;A='!B;", 9, HEIGHT, -1);
     }
 
     @Says("a form has that of the alternative with the least")
